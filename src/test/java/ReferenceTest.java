@@ -1,0 +1,182 @@
+import java.util.Random;
+
+/** Compares the class with Reference over many made-up runs of calls, the same ones each time. */
+public final class ReferenceTest {
+    private static final int RUNS = 3000;
+    private static final String[] PLAIN =
+        ("dup drop swap over rot nip tuck ?dup depth + - * / mod negate abs min max and or xor invert lshift rshift "
+            + "= < > 0= 0< @ ! +! .").split(" ");
+    private static final String[] CONTROL =
+        "if else then begin until again while repeat do loop i exit recurse : ; forget".split(" ");
+    private static final String[] NAMES = "a b c sq fac name6b ~ a1 -x".split(" ");
+    private static final String[] ODD = "zz toolong 1234567890 -1234567890 -- 123456789 -0 IF 0x : ;".split(" ");
+
+    private final Random random;
+    private final WordForge forge = new WordForge();
+    private final Reference reference = new Reference();
+    private final int run;
+    private String latest = "";
+    private static final int[] faults = new int[10];
+
+    private ReferenceTest(int run) {
+        this.run = run;
+        random = new Random(run);
+    }
+
+    public static void main(String[] args) {
+        int runs = args.length > 0 ? Integer.parseInt(args[0]) : RUNS;
+        for (int run = 0; run < runs; run++) {
+            new ReferenceTest(run).play();
+        }
+        for (int fault = 0; fault < faults.length; fault++) {
+            Desk.due("fault " + fault + " was met", faults[fault] > 0, true);
+        }
+        Desk.end();
+    }
+
+    private void play() {
+        int texts = 1 + random.nextInt(6);
+        for (int n = 0; n < texts; n++) {
+            if (random.nextInt(4) > 0) {
+                forge.clear();
+                reference.clear();
+                latest = "";
+            }
+            for (int k = random.nextInt(3); k > 0; k--) {
+                int v = random.nextInt(8) == 0 ? random.nextInt() : random.nextInt(6) - 1;
+                Desk.due("push", forge.push(v), reference.push(v));
+            }
+            if (random.nextInt(10) == 0) {
+                feedInt(random.nextInt());
+            }
+            feedText(random.nextInt(3) == 0 ? anyWords() : shapedText());
+            int loads = random.nextInt(8) == 0 ? 3 : 1;
+            for (int k = 0; k < loads; k++) {
+                int fault = reference.load();
+                faults[fault]++;
+                Desk.due(said("load"), forge.load(), fault);
+                compare();
+            }
+        }
+    }
+
+    private String said(String what) {
+        return "run " + run + " '" + latest + "' " + what;
+    }
+
+    private void feedInt(int w) {
+        Desk.due(said("feed(" + w + ")"), forge.feed(w), reference.feed(w));
+    }
+
+    private void feedText(String text) {
+        latest += text;
+        for (int p = 0; p < text.length(); ) {
+            int n = Math.min(1 + random.nextInt(4), text.length() - p);
+            feedInt(Desk.packed(text.substring(p, p + n)));
+            p += n;
+        }
+    }
+
+    private String one(String[] words) {
+        return words[random.nextInt(words.length)];
+    }
+
+    private String anyWords() {
+        StringBuilder text = new StringBuilder();
+        for (int n = random.nextInt(40); n > 0; n--) {
+            int kind = random.nextInt(12);
+            text.append(kind < 4 ? number() : kind < 8 ? one(PLAIN) : kind < 9 ? one(CONTROL) : kind < 11 ? one(NAMES) : one(ODD));
+            text.append(random.nextInt(6) == 0 ? "   " : " ");
+        }
+        return text.toString();
+    }
+
+    private String number() {
+        int kind = random.nextInt(10);
+        return Integer.toString(kind < 7 ? random.nextInt(5) : kind < 9 ? random.nextInt(40) - 20 : random.nextInt(999999999));
+    }
+
+    /** Definitions that are mostly balanced, and words that run them. */
+    private String shapedText() {
+        StringBuilder text = new StringBuilder();
+        int parts = 1 + random.nextInt(5);
+        for (int n = 0; n < parts && text.length() < 250; n++) {
+            int kind = random.nextInt(10);
+            if (kind < 5) {
+                text.append(": ").append(one(NAMES)).append(' ');
+                sequence(text, 0, false, 1 + random.nextInt(5));
+                if (random.nextInt(12) == 0) {
+                    text.append(one(CONTROL)).append(' ');
+                }
+                text.append("; ");
+            } else if (kind < 6) {
+                text.append("forget ").append(one(NAMES)).append(' ');
+            } else {
+                for (int k = random.nextInt(5); k > 0; k--) {
+                    text.append(random.nextInt(3) == 0 ? one(PLAIN) : number()).append(' ');
+                }
+                text.append(one(NAMES)).append(' ');
+            }
+        }
+        return text.toString();
+    }
+
+    private void sequence(StringBuilder text, int depth, boolean inLoop, int length) {
+        for (int n = 0; n < length && text.length() < 270; n++) {
+            int kind = random.nextInt(20);
+            if (kind < 5) {
+                text.append(number()).append(' ');
+            } else if (kind < 10) {
+                text.append(one(PLAIN)).append(' ');
+            } else if (kind < 11) {
+                text.append(one(NAMES)).append(' ');
+            } else if (kind < 12) {
+                text.append(random.nextInt(2) == 0 ? "exit " : "recurse ");
+            } else if (kind < 14) {
+                text.append(inLoop || random.nextInt(20) == 0 ? "i " : "1 ");
+            } else {
+                structure(text, depth, inLoop);
+            }
+        }
+    }
+
+    private void structure(StringBuilder text, int depth, boolean inLoop) {
+        int kind = random.nextInt(7);
+        int length = random.nextInt(depth > 9 ? 1 : 4);
+        boolean loop = kind >= 5;
+        if (loop && random.nextInt(3) > 0) {
+            text.append(random.nextInt(6)).append(" 0 ");
+        }
+        if (kind < 2 && random.nextBoolean()) {
+            text.append(random.nextInt(2)).append(' ');
+        }
+        text.append(kind < 2 ? "if " : loop ? "do " : "begin ");
+        sequence(text, depth + 1, inLoop || loop, length);
+        if (kind == 1) {
+            text.append("else ");
+            sequence(text, depth + 1, inLoop, length);
+        } else if (kind == 2) {
+            text.append("while ");
+            sequence(text, depth + 1, inLoop, length);
+        }
+        String[] closing = {"then ", "then ", "repeat ", "until ", "again ", "loop ", "loop "};
+        text.append(closing[kind]);
+    }
+
+    private void compare() {
+        Desk.due(said("faultAt"), forge.faultAt(), reference.faultAt());
+        Desk.due(said("steps"), forge.steps(), reference.steps());
+        Desk.due(said("depth"), forge.depth(), reference.depth());
+        Desk.due(said("puts"), forge.puts(), reference.puts());
+        Desk.due(said("definitions"), forge.definitions(), reference.definitions());
+        for (int k = -1; k <= 33; k++) {
+            Desk.due(said("value(" + k + ")"), forge.value(k), reference.value(k));
+        }
+        for (int k = -1; k <= 21; k++) {
+            Desk.due(said("cell(" + k + ")"), forge.cell(k), reference.cell(k));
+            Desk.due(said("output(" + k + ")"), forge.output(k), reference.output(k));
+            Desk.due(said("body(" + k + ")"), forge.body(k), reference.body(k));
+            Desk.due(said("name(" + k + ")"), forge.name(k), reference.name(k));
+        }
+    }
+}
