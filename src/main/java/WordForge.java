@@ -87,7 +87,7 @@ public final class WordForge {
         return dictionary.has(k) ? dictionary.keyOf(k) : -1;
     }
 
-    /** The numbers by which words are done: the words that are always there, in the order of their spellings, then the other kinds. */
+    /** The numbers of the words that are always there, in the order of their spellings, and of the other kinds of words. */
     static final class Op {
         static final String STACK_WORDS = "dup drop swap over rot nip tuck ?dup depth";
         static final int DUP = 0, DROP = 1, SWAP = 2, OVER = 3, ROT = 4, NIP = 5, TUCK = 6, DUP_UNLESS_ZERO = 7, DEPTH = 8;
@@ -112,7 +112,7 @@ public final class WordForge {
         static final int SPELLED = 49;
         static final int NUMBER = 49, NAME = 50, END = 51, UNKNOWN = 52;
 
-        /** How many values each takes from the stack. */
+        /** How many values each takes from the stack; a row for each line of numbers above. */
         private static final int[] TAKES = {
             1, 1, 2, 2, 3, 2, 2, 1, 0,
             2, 2, 2, 2, 2, 2, 2,
@@ -253,7 +253,7 @@ public final class WordForge {
         }
 
         private static int codeOf(int w, int k) {
-            return w >> 8 * k & 255;
+            return (w >> 8 * k) & 255;
         }
 
         void rewind() {
@@ -396,7 +396,7 @@ public final class WordForge {
         }
 
         void add(int v) {
-            latest[count & KEPT - 1] = v;
+            latest[count & (KEPT - 1)] = v;
             count++;
         }
 
@@ -405,7 +405,7 @@ public final class WordForge {
         }
 
         int fromLatest(int k) {
-            return latest[count - 1 - k & KEPT - 1];
+            return latest[(count - 1 - k) & (KEPT - 1)];
         }
     }
 
@@ -461,34 +461,34 @@ public final class WordForge {
         boolean link(int from, int to) {
             open = 0;
             openLoops = 0;
-            boolean balanced = true;
-            for (int p = from; p < to && balanced; p++) {
-                balanced = linkWord(p);
+            boolean fits = true;
+            for (int p = from; p < to && fits; p++) {
+                int op = code.opAt(p);
+                switch (op) {
+                    case Op.IF:
+                    case Op.BEGIN:
+                    case Op.DO:
+                        fits = begin(p, op);
+                        break;
+                    case Op.ELSE:
+                    case Op.WHILE:
+                        fits = divide(p, op);
+                        break;
+                    case Op.THEN:
+                    case Op.UNTIL:
+                    case Op.AGAIN:
+                    case Op.REPEAT:
+                    case Op.LOOP:
+                        fits = close(p, op);
+                        break;
+                    case Op.INDEX:
+                        fits = openLoops > 0;
+                        break;
+                    default:
+                        break;
+                }
             }
-            return balanced && open == 0;
-        }
-
-        private boolean linkWord(int p) {
-            int op = code.opAt(p);
-            switch (op) {
-                case Op.IF:
-                case Op.BEGIN:
-                case Op.DO:
-                    return begin(p, op);
-                case Op.ELSE:
-                case Op.WHILE:
-                    return divide(p, op);
-                case Op.THEN:
-                case Op.UNTIL:
-                case Op.AGAIN:
-                case Op.REPEAT:
-                case Op.LOOP:
-                    return close(p, op);
-                case Op.INDEX:
-                    return openLoops > 0;
-                default:
-                    return true;
-            }
+            return fits && open == 0;
         }
 
         private boolean begin(int p, int op) {
@@ -1064,7 +1064,7 @@ public final class WordForge {
             if (!text.advance()) {
                 return WRONG_WORD;
             }
-            if (!canBeName()) {
+            if (!canBeName(opOfWord())) {
                 return BAD_DEFINITION;
             }
             long key = text.wordKey();
@@ -1082,8 +1082,7 @@ public final class WordForge {
             return WRONG_WORD;
         }
 
-        private boolean canBeName() {
-            int op = opOfWord();
+        private boolean canBeName(int op) {
             return (op == Op.NAME || op == Op.UNKNOWN) && text.wordLength() <= Dictionary.NAME_LENGTH;
         }
 

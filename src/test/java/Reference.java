@@ -487,6 +487,14 @@ final class Reference {
         return dictionary.size();
     }
 
+    List<String> names() {
+        List<String> names = new ArrayList<>();
+        for (Definition definition : dictionary) {
+            names.add(definition.name);
+        }
+        return names;
+    }
+
     int body(int k) {
         return k < 0 || k >= dictionary.size() ? -1 : dictionary.get(k).words.size();
     }

@@ -1,3 +1,5 @@
+import java.util.ArrayList;
+import java.util.List;
 import java.util.Random;
 
 /** Compares the class with Reference over many made-up runs of calls, the same ones each time. */
@@ -11,12 +13,15 @@ public final class ReferenceTest {
     private static final String[] NAMES = "a b c sq fac name6b ~ a1 -x".split(" ");
     private static final String[] ODD = "zz toolong 1234567890 -1234567890 -- 123456789 -0 IF 0x : ;".split(" ");
 
+    private static final int[] faults = new int[10];
+
     private final Random random;
     private final WordForge forge = new WordForge();
     private final Reference reference = new Reference();
     private final int run;
+    /** The names that are defined, and those that the text being made defines. */
+    private final List<String> defined = new ArrayList<>();
     private String latest = "";
-    private static final int[] faults = new int[10];
 
     private ReferenceTest(int run) {
         this.run = run;
@@ -42,14 +47,16 @@ public final class ReferenceTest {
                 reference.clear();
                 latest = "";
             }
-            for (int k = random.nextInt(3); k > 0; k--) {
+            for (int k = random.nextInt(12); k > 0; k--) {
                 int v = random.nextInt(8) == 0 ? random.nextInt() : random.nextInt(6) - 1;
                 Desk.due("push", forge.push(v), reference.push(v));
             }
             if (random.nextInt(10) == 0) {
                 feedInt(random.nextInt());
             }
-            feedText(random.nextInt(3) == 0 ? anyWords() : shapedText());
+            defined.clear();
+            defined.addAll(reference.names());
+            feedText(random.nextInt(6) == 0 ? anyWords() : shapedText());
             int loads = random.nextInt(8) == 0 ? 3 : 1;
             for (int k = 0; k < loads; k++) {
                 int fault = reference.load();
@@ -81,6 +88,11 @@ public final class ReferenceTest {
         return words[random.nextInt(words.length)];
     }
 
+    private String name() {
+        boolean known = !defined.isEmpty() && random.nextInt(15) > 0;
+        return known ? defined.get(random.nextInt(defined.size())) : one(NAMES);
+    }
+
     private String anyWords() {
         StringBuilder text = new StringBuilder();
         for (int n = random.nextInt(40); n > 0; n--) {
@@ -103,19 +115,21 @@ public final class ReferenceTest {
         for (int n = 0; n < parts && text.length() < 250; n++) {
             int kind = random.nextInt(10);
             if (kind < 5) {
-                text.append(": ").append(one(NAMES)).append(' ');
+                String made = one(NAMES);
+                text.append(": ").append(made).append(' ');
                 sequence(text, 0, false, 1 + random.nextInt(5));
-                if (random.nextInt(12) == 0) {
+                if (random.nextInt(20) == 0) {
                     text.append(one(CONTROL)).append(' ');
                 }
                 text.append("; ");
-            } else if (kind < 6) {
-                text.append("forget ").append(one(NAMES)).append(' ');
+                defined.add(made);
+            } else if (kind < 6 && random.nextInt(3) == 0) {
+                text.append("forget ").append(name()).append(' ');
             } else {
                 for (int k = random.nextInt(5); k > 0; k--) {
                     text.append(random.nextInt(3) == 0 ? one(PLAIN) : number()).append(' ');
                 }
-                text.append(one(NAMES)).append(' ');
+                text.append(name()).append(' ');
             }
         }
         return text.toString();
@@ -126,14 +140,14 @@ public final class ReferenceTest {
             int kind = random.nextInt(20);
             if (kind < 5) {
                 text.append(number()).append(' ');
-            } else if (kind < 10) {
+            } else if (kind < 9) {
                 text.append(one(PLAIN)).append(' ');
-            } else if (kind < 11) {
-                text.append(one(NAMES)).append(' ');
             } else if (kind < 12) {
-                text.append(random.nextInt(2) == 0 ? "exit " : "recurse ");
-            } else if (kind < 14) {
-                text.append(inLoop || random.nextInt(20) == 0 ? "i " : "1 ");
+                text.append(defined.isEmpty() ? "depth" : name()).append(' ');
+            } else if (kind < 13) {
+                text.append(random.nextInt(3) == 0 ? "exit " : "recurse ");
+            } else if (kind < 15) {
+                text.append(inLoop || random.nextInt(20) == 0 ? "i " : "drop ");
             } else {
                 structure(text, depth, inLoop);
             }
@@ -148,7 +162,7 @@ public final class ReferenceTest {
             text.append(random.nextInt(6)).append(" 0 ");
         }
         if (kind < 2 && random.nextBoolean()) {
-            text.append(random.nextInt(2)).append(' ');
+            text.append("depth 3 mod ");
         }
         text.append(kind < 2 ? "if " : loop ? "do " : "begin ");
         sequence(text, depth + 1, inLoop || loop, length);
@@ -156,8 +170,11 @@ public final class ReferenceTest {
             text.append("else ");
             sequence(text, depth + 1, inLoop, length);
         } else if (kind == 2) {
-            text.append("while ");
+            text.append(random.nextBoolean() ? "depth 5 mod while " : "while ");
             sequence(text, depth + 1, inLoop, length);
+        }
+        if (kind == 3 && random.nextBoolean()) {
+            text.append("depth 4 mod ");
         }
         String[] closing = {"then ", "then ", "repeat ", "until ", "again ", "loop ", "loop "};
         text.append(closing[kind]);
