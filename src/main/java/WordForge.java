@@ -257,7 +257,6 @@ public final class WordForge {
         }
 
         void rewind() {
-            wordStart = 0;
             wordEnd = 0;
             wordPlace = -1;
         }

@@ -27,7 +27,8 @@ public final class BalanceTest {
             "if else", "else then", "then if", "if then then", "if else else then", "if else then then", "if then else",
             "begin then", "begin loop", "begin repeat", "begin while", "begin while until", "begin while again",
             "begin while while repeat", "begin else", "begin while else repeat", "while repeat", "begin until until",
-            "begin while repeat repeat", "until begin", "do until", "do again", "do repeat", "do then", "do else", "do while loop repeat",
+            "begin while repeat repeat", "until begin", "do until", "do again", "do repeat", "do then", "do else",
+            "do while loop repeat",
             "if until", "if again", "if loop", "if while", "if repeat", "if else loop", "if else repeat", "if else until",
             "do loop i", "i do loop", "do loop loop", "if i then", "begin i until",
             "if begin then until", "begin if until then", "do if loop then", "if do then loop", "begin do until loop",
@@ -45,6 +46,8 @@ public final class BalanceTest {
             {"begin while", "repeat"}, {"begin", "while repeat"}, {"do", "loop"}};
         for (String[] kind : kinds) {
             new Desk().leaves(": a " + Desk.times(8, kind[0]) + Desk.times(8, kind[1]) + ";");
+            String open = ": a " + Desk.times(9, kind[0]) + Desk.times(8, kind[1]) + ";";
+            new Desk().meets(open, 2, open.split(" ").length - 1);
             String nine = ": a " + Desk.times(9, kind[0]) + Desk.times(9, kind[1]) + ";";
             new Desk().meets(nine, 2, nine.split(" ").length - 1);
         }

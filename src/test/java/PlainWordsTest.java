@@ -125,11 +125,12 @@ public final class PlainWordsTest {
             new Desk().meets(full + word, 4, 32, 32);
             new Desk().makes(Desk.times(31, "5") + word, 32);
         }
-        for (String word : new String[] {"swap", "rot", "+", "drop", "nip", "negate", "@", "!", ".", "5 drop"}) {
+        String rest = "drop swap rot nip + - * / mod negate abs min max and or xor invert lshift rshift = < > 0= 0< @ ! +! .";
+        for (String word : rest.split(" ")) {
             Desk d = new Desk();
             d.load(full);
             Desk.due("full", d.forge.depth(), 32);
-            Desk.due("on full: " + word, d.load(word), word.equals("5 drop") ? 4 : 0);
+            Desk.due("on full: " + word, d.load(word), 0);
         }
         Desk zero = new Desk();
         zero.load(Desk.times(32, "0"));

@@ -97,7 +97,8 @@ public final class ReferenceTest {
         StringBuilder text = new StringBuilder();
         for (int n = random.nextInt(40); n > 0; n--) {
             int kind = random.nextInt(12);
-            text.append(kind < 4 ? number() : kind < 8 ? one(PLAIN) : kind < 9 ? one(CONTROL) : kind < 11 ? one(NAMES) : one(ODD));
+            String rare = kind < 9 ? one(CONTROL) : kind < 11 ? one(NAMES) : one(ODD);
+            text.append(kind < 4 ? number() : kind < 8 ? one(PLAIN) : rare);
             text.append(random.nextInt(6) == 0 ? "   " : " ");
         }
         return text.toString();

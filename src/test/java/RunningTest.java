@@ -76,6 +76,8 @@ public final class RunningTest {
         String nest = ": a " + eight + Desk.times(8, "loop") + "; ";
         String twelve = nest + ": b " + four + "a " + Desk.times(4, "loop") + "; ";
         new Desk().makes(twelve + "b", 1 + 3 * 4 + (1 + 3 * 8 + 8 + 1) + 4 + 1);
+        String innermost = ": a " + Desk.times(7, "1 0 do") + "9 6 do i loop " + Desk.times(7, "loop") + "; ";
+        new Desk().leaves(innermost + ": b " + four + "a " + Desk.times(4, "loop") + "; b", 6, 7, 8);
         String thirteen = twelve + ": c 1 0 do b loop ; ";
         new Desk().meets(thirteen + "c", 7, thirteen.split(" ").length, 1 + 3 + 1 + 3 * 4 + 1 + 3 * 7 + 2);
         new Desk().meets(": r 1 0 do recurse loop ; r", 7, 8, 1 + 3 * 12 + 11);
