@@ -2,10 +2,18 @@
 final class Desk {
     static final long NONE = 4294967296L;
 
+    private static String sentence = "";
+    private static int sentences = 0;
     private static int checks = 0;
     private static int wrong = 0;
 
     final WordForge forge = new WordForge();
+
+    /** From here on this sentence of the document is tested; a wrong answer is told with it. */
+    static void sentence(String words) {
+        sentence = words;
+        sentences++;
+    }
 
     /** Feeds the whole text, four characters a call. */
     Desk feed(String text) {
@@ -22,6 +30,22 @@ final class Desk {
             w |= upToFour.charAt(k) << 8 * k;
         }
         return w;
+    }
+
+    /** Pushes these values, the top last. */
+    Desk holding(int... values) {
+        for (int v : values) {
+            due("push(" + v + ")", forge.push(v), true);
+        }
+        return this;
+    }
+
+    /** Pushes the value n times. */
+    Desk holdingTimes(int n, int v) {
+        for (int k = 0; k < n; k++) {
+            due("push(" + v + ")", forge.push(v), true);
+        }
+        return this;
     }
 
     int load(String text) {
@@ -59,9 +83,19 @@ final class Desk {
         return this;
     }
 
+    /** Loads the text, which meets this fault at its last word. */
+    Desk meetsAtLast(String text, int fault) {
+        return meets(text, fault, words(text) - 1);
+    }
+
     Desk makes(String text, int steps) {
         due("load of '" + text + "'", load(text), 0);
         due("steps of '" + text + "'", forge.steps(), steps);
+        return this;
+    }
+
+    Desk defines(int definitions) {
+        due("definitions", forge.definitions(), definitions);
         return this;
     }
 
@@ -69,7 +103,7 @@ final class Desk {
         checks++;
         if (got != want) {
             wrong++;
-            System.out.println(what + " answered " + got + ", due is " + want);
+            System.out.println("\"" + sentence + "\" " + what + " answered " + got + ", due is " + want);
         }
     }
 
@@ -82,8 +116,12 @@ final class Desk {
         return (word + " ").repeat(n);
     }
 
+    static int words(String text) {
+        return text.trim().split(" +").length;
+    }
+
     static void end() {
-        System.out.println(checks + " answers, " + wrong + " not as due");
+        System.out.println(sentences + " tests of sentences, " + checks + " answers, " + wrong + " not as due");
         if (wrong != 0) {
             System.exit(1);
         }

@@ -4,7 +4,11 @@ import java.util.Random;
 
 /** Compares the class with Reference over many made-up runs of calls, the same ones each time. */
 public final class ReferenceTest {
-    private static final int RUNS = 3000;
+    private static final int RUNS = 6000;
+    /** The calls for which an object is used, those that compareAll makes, and those beside the feeds of a text. */
+    private static final int CALLS = 512;
+    private static final int LAST_CALLS = 7 + 35 + 4 * 23;
+    private static final int TEXT_CALLS = 1 + 11 + 1 + 3 * 8;
     private static final String[] PLAIN =
         ("dup drop swap over rot nip tuck ?dup depth + - * / mod negate abs min max and or xor invert lshift rshift "
             + "= < > 0= 0< @ ! +! .").split(" ");
@@ -22,6 +26,7 @@ public final class ReferenceTest {
     /** The names that are defined, and those that the text being made defines. */
     private final List<String> defined = new ArrayList<>();
     private String latest = "";
+    private int calls;
 
     private ReferenceTest(int run) {
         this.run = run;
@@ -40,48 +45,66 @@ public final class ReferenceTest {
     }
 
     private void play() {
-        int texts = 1 + random.nextInt(6);
-        for (int n = 0; n < texts; n++) {
-            if (random.nextInt(4) > 0) {
-                forge.clear();
-                reference.clear();
-                latest = "";
-            }
-            for (int k = random.nextInt(12); k > 0; k--) {
-                int v = random.nextInt(8) == 0 ? random.nextInt() : random.nextInt(6) - 1;
-                Desk.due("push", forge.push(v), reference.push(v));
-            }
-            if (random.nextInt(10) == 0) {
-                feedInt(random.nextInt());
-            }
-            defined.clear();
-            defined.addAll(reference.names());
-            feedText(random.nextInt(6) == 0 ? anyWords() : shapedText());
-            int loads = random.nextInt(8) == 0 ? 3 : 1;
-            for (int k = 0; k < loads; k++) {
-                int fault = reference.load();
-                faults[fault]++;
-                Desk.due(said("load"), forge.load(), fault);
-                compare();
-            }
+        boolean room = true;
+        for (int n = 1 + random.nextInt(8); n > 0 && room; n--) {
+            room = playText();
         }
+        compareAll();
     }
 
-    private String said(String what) {
-        return "run " + run + " '" + latest + "' " + what;
+    /** Feeds and loads one more text, unless the object has no calls left for it; what these would answer is free. */
+    private boolean playText() {
+        defined.clear();
+        defined.addAll(reference.names());
+        String text = random.nextInt(6) == 0 ? anyWords() : shapedText();
+        List<String> parts = parts(text);
+        if (calls + parts.size() + TEXT_CALLS + LAST_CALLS > CALLS) {
+            return false;
+        }
+        if (random.nextInt(4) > 0) {
+            forge.clear();
+            calls++;
+            reference.clear();
+            latest = "";
+        }
+        for (int k = random.nextInt(12); k > 0; k--) {
+            int v = random.nextInt(8) == 0 ? random.nextInt() : random.nextInt(6) - 1;
+            same("push", forge.push(v) ? 1 : 0, reference.push(v) ? 1 : 0);
+        }
+        if (random.nextInt(10) == 0) {
+            feedInt(random.nextInt());
+        }
+        latest += text;
+        for (String part : parts) {
+            feedInt(Desk.packed(part));
+        }
+        for (int k = random.nextInt(8) == 0 ? 3 : 1; k > 0; k--) {
+            int fault = reference.load();
+            faults[fault]++;
+            same("load", forge.load(), fault);
+            compareBriefly();
+        }
+        return true;
+    }
+
+    private void same(String what, long got, long want) {
+        calls++;
+        Desk.due("run " + run + " '" + latest + "' " + what, got, want);
     }
 
     private void feedInt(int w) {
-        Desk.due(said("feed(" + w + ")"), forge.feed(w), reference.feed(w));
+        same("feed(" + w + ")", forge.feed(w), reference.feed(w));
     }
 
-    private void feedText(String text) {
-        latest += text;
+    private List<String> parts(String text) {
+        List<String> parts = new ArrayList<>();
         for (int p = 0; p < text.length(); ) {
-            int n = Math.min(1 + random.nextInt(4), text.length() - p);
-            feedInt(Desk.packed(text.substring(p, p + n)));
-            p += n;
+            int n = random.nextInt(4) > 0 ? 4 : 1 + random.nextInt(3);
+            String part = text.substring(p, Math.min(p + n, text.length()));
+            parts.add(part);
+            p += part.length();
         }
+        return parts;
     }
 
     private String one(String[] words) {
@@ -181,20 +204,27 @@ public final class ReferenceTest {
         text.append(closing[kind]);
     }
 
-    private void compare() {
-        Desk.due(said("faultAt"), forge.faultAt(), reference.faultAt());
-        Desk.due(said("steps"), forge.steps(), reference.steps());
-        Desk.due(said("depth"), forge.depth(), reference.depth());
-        Desk.due(said("puts"), forge.puts(), reference.puts());
-        Desk.due(said("definitions"), forge.definitions(), reference.definitions());
+    private void compareBriefly() {
+        same("faultAt", forge.faultAt(), reference.faultAt());
+        same("steps", forge.steps(), reference.steps());
+        same("depth", forge.depth(), reference.depth());
+        same("puts", forge.puts(), reference.puts());
+        same("definitions", forge.definitions(), reference.definitions());
+        same("value(0)", forge.value(0), reference.value(0));
+        same("output(0)", forge.output(0), reference.output(0));
+    }
+
+    private void compareAll() {
+        compareBriefly();
         for (int k = -1; k <= 33; k++) {
-            Desk.due(said("value(" + k + ")"), forge.value(k), reference.value(k));
+            same("value(" + k + ")", forge.value(k), reference.value(k));
         }
         for (int k = -1; k <= 21; k++) {
-            Desk.due(said("cell(" + k + ")"), forge.cell(k), reference.cell(k));
-            Desk.due(said("output(" + k + ")"), forge.output(k), reference.output(k));
-            Desk.due(said("body(" + k + ")"), forge.body(k), reference.body(k));
-            Desk.due(said("name(" + k + ")"), forge.name(k), reference.name(k));
+            same("cell(" + k + ")", forge.cell(k), reference.cell(k));
+            same("output(" + k + ")", forge.output(k), reference.output(k));
+            same("body(" + k + ")", forge.body(k), reference.body(k));
+            same("name(" + k + ")", forge.name(k), reference.name(k));
         }
+        Desk.due("calls of run " + run, calls <= CALLS, true);
     }
 }
