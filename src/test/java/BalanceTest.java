@@ -142,5 +142,11 @@ public final class BalanceTest {
         d.meets("b", 1, 0);
         d.leaves("0 a 1 a", 2, 1);
         d.leaves(": b 3 0 do i loop ; b", 2, 1, 0, 1, 2).defines(2);
+        // Neither the loop that stayed open nor a word of the longer body is there for the next one.
+        new Desk().meets(": b do ;", 2, 3).meets(": b i ;", 2, 3).defines(0);
+        new Desk().meets(": b do do if ;", 2, 5).meets(": b do loop i ;", 2, 5).defines(0);
+        for (String word : "if else then begin until again while repeat do loop i".split(" ")) {
+            new Desk().meets(": b 1 " + word + " ;", 2, 4).leaves(": b 1 ; b", 1).leaves(": c ; c", 1).defines(2);
+        }
     }
 }

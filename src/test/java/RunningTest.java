@@ -19,6 +19,7 @@ public final class RunningTest {
         loopThatStartsAtItsLimit();
         indexOfTheInnermostLoop();
         indexOnAFullStack();
+        controlWordsOnAFullStack();
         valuesOfControlWords();
         exitLeavesTheBody();
         exitClosesItsLoops();
@@ -126,6 +127,28 @@ public final class RunningTest {
         new Desk().leaves(": a 1 0 do i loop ;").holdingTimes(30, 5).makes("a", 1 + 2 + 1 + 1 + 1 + 1);
         new Desk().leaves(": a 1 0 do 7 8 i loop ;").holdingTimes(30, 5).meets("a", 4, 0, 1 + 2 + 1 + 2);
         new Desk().leaves(": a 40 0 do i loop ;").meets("a", 4, 0, 1 + 2 + 1 + 2 * 32);
+    }
+
+    private static void controlWordsOnAFullStack() {
+        Desk.sentence("4 the stack would have more than 32");
+        // Words that push nothing need no room: each of these comes to its words with 32 on the stack.
+        full("", 1 + 1, 5);
+        full("e", 1 + 2 + 1, 5);
+        full("exit", 1 + 1, 5);
+        full("if then", 1 + 1 + 1, 5);
+        full("begin until", 1 + 2 + 1, 5, 0);
+        full("begin while exit repeat", 1 + 1 + 1, 5);
+        full("do loop", 1 + 1 + 1 + 1, 3, 2);
+        full("do 7 7 loop", 1 + 1 + 2 + 1 + 1, 3, 2);
+        full("begin if exit then 7 again", 1 + 1 + 1 + 1 + 1 + 1, 0);
+        full("begin while 0 repeat", 1 + 1 + 1 + 1 + 1 + 1, 5);
+        full("if 0 recurse then", 1 + 1 + 1 + 1 + 2 + 1, 5);
+    }
+
+    private static void full(String body, int steps, int... tops) {
+        Desk d = new Desk().leaves(": e ; : x " + body + " ;").holdingTimes(32 - tops.length, 5).holding(tops);
+        Desk.due("depth", d.forge.depth(), 32);
+        d.makes("x", steps);
     }
 
     private static void valuesOfControlWords() {

@@ -11,6 +11,7 @@ public final class StepsTest {
         branchesTaken();
         roundsOfLoops();
         whatIsNoStep();
+        manyWordsThatAreNoSteps();
         exitIsTheEnd();
         wordAtFaultIsNotCounted();
         latestLoadingAlone();
@@ -81,6 +82,15 @@ public final class StepsTest {
         new Desk().makes(": a if else then if else then ; 1 1 a", 2 + 1 + 2 + 1).makes("0 0 a", 2 + 1 + 2 + 1);
         new Desk().makes(": a begin begin begin 1 until 1 until 1 until ; a", 1 + 6 + 1);
         new Desk().makes("1 : a 2 3 ; forget a 4 : b ; 5", 3);
+    }
+
+    private static void manyWordsThatAreNoSteps() {
+        Desk.sentence("(else, then, begin, and : ; forget with what they take are none; a word at fault is not counted)");
+        String begins = ": b " + Desk.times(8, "begin") + "exit " + Desk.times(8, "again") + "; ";
+        new Desk().makes(begins + ": a 0 do b loop ; 331 a", 1 + 1 + 1 + 1 + 331 * 3 + 1);
+        // A branch that is not taken comes to the thens of all that it stands in.
+        String nest = ": b " + Desk.times(7, "1 if") + "0 if else " + Desk.times(8, "then") + "; ";
+        new Desk().makes(nest + ": a 0 do b loop ; 50 a", 1 + 1 + 1 + 1 + 50 * (1 + 2 * 8 + 1 + 1) + 1);
     }
 
     private static void exitIsTheEnd() {
