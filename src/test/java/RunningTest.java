@@ -88,7 +88,7 @@ public final class RunningTest {
     }
 
     private static void loopEndsAtTheLimit() {
-        Desk.sentence("loop: its count, start at first, becomes one more (wrapping); is it the limit then, the loop is closed, else on behind its do");
+        Desk.sentence("is it the limit then, the loop is closed, else on behind its do");
         Desk d = new Desk().leaves(": a do i loop ;");
         d.holding(1, 0).leaves("a", 0);
         new Desk().leaves(": a do i loop ;").holding(MAX, MAX - 1).leaves("a", MAX - 1);
@@ -162,7 +162,7 @@ public final class RunningTest {
     }
 
     private static void exitLeavesTheBody() {
-        Desk.sentence("exit, and the end of the body: its loops that are open are closed, and the running goes on behind where it was begun");
+        Desk.sentence("and the running goes on behind where it was begun");
         new Desk().leaves(": a exit ; a a").leaves(": b 1 exit 2 ; b 3", 1, 3);
         new Desk().leaves(": a 1 exit 2 ; : b a 3 ; : c b a ; c 4", 1, 3, 1, 4);
         new Desk().leaves(": a if 1 exit else 2 then 3 ; 0 a 1 a", 2, 3, 1);
